@@ -980,7 +980,6 @@ public final class BathLeague {
             ducks.bath[duck] = bath;
             ducks.low[duck] = low;
             ducks.high[duck] = high;
-            ducks.quackCount[duck] = 0;
             ducks.wasPleased[duck] = ducks.isPleased(duck, baths);
             ducks.count++;
             return duck;

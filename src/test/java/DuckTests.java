@@ -149,7 +149,11 @@ final class DuckTests {
         x.pour(0, 1, 1);
         Check.due("two that have quacked twice", order(x), "0132");
         Check.due("quacks", x.quacks(0), 2);
-        Check.refused("rank 4", ELEMENT, () -> x.duckByQuacks(4));
+        x.addDuck(0, 0, 99);
+        x.addDuck(1, 56, 56);
+        Check.due("all 6 ducks", order(x), "013254");
+        Check.due("contentShare of all 6 ducks", x.contentShare(), 2.0f / 6.0f);
+        Check.refused("rank 6", ELEMENT, () -> x.duckByQuacks(6));
         Check.refused("rank -1", ELEMENT, () -> x.duckByQuacks(-1));
     }
 

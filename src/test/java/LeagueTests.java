@@ -51,6 +51,13 @@ final class LeagueTests {
         x.leave(1);
         Check.due("leagueHeat", x.leagueHeat(), 0);
         Check.due("leagueHeatByOthers", x.leagueHeatByOthers(), 0);
+        BathLeague all = Leagues.withWarmMembers(1, 2, 3, 4, 5);
+        Check.due("leagueHeat of all 5 baths", all.leagueHeat(), 600);
+        Check.due("leagueHeatByOthers of all 5 baths", all.leagueHeatByOthers(), 600);
+        all.leave(4);
+        Check.due("leagueHeat of 4 of 5", all.leagueHeat(), 400);
+        Check.due("leagueHeatByOthers of 4 of 5", all.leagueHeatByOthers(), 400);
+        Check.due("isConsistent", all.isConsistent(), true);
     }
 
     private static void extremes() {

@@ -30,6 +30,9 @@ final class UndoTests {
         dueUndone(x, state, () -> x.addDuck(1, 2, 3));
         dueUndone(x, state, () -> x.leave(1));
         dueUndone(x, state, () -> x.advance(20));
+        x.setPlug(1, false);
+        state = Leagues.stateOf(x);
+        dueUndone(x, state, () -> x.advance(2));
         dueUndone(x, state, () -> Leagues.run(x, "bath;tap 2 w 1;join 2;tick 20"));
         x.leave(0);
         state = Leagues.stateOf(x);
