@@ -785,7 +785,7 @@ public final class BathLeague {
 
         boolean isPleased(int duck, Baths baths) {
             int observed = bath[duck];
-            int degrees = baths.degrees(observed);
+            int degrees = roundedDegrees(baths.heat[observed], baths.volume[observed]);
             return baths.hasWater(observed) && degrees >= low[duck] && degrees <= high[duck];
         }
 
@@ -1243,7 +1243,7 @@ public final class BathLeague {
                 malformed = true;
                 return 0;
             }
-            readSign(sign);
+            position++;
             return sign - '0';
         }
 
