@@ -22,6 +22,7 @@ final class AllTests {
         UndoEdgeTests.run();
         RefusalTests.run();
         ModelTests.run();
+        ReadmeTests.run();
         Check.finish();
     }
 }
